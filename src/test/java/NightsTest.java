@@ -294,5 +294,10 @@ public final class NightsTest {
         Due.due("20 no host", x.planned(0, 0), NONE);
         InnChanged y = Due.told("host;guest;host;true 0 1 0;dull 0 0;dull 0 2;true 0 1 0;night 2;night 2");
         Due.due("19 two hosts", y.plan(0), 2);
+        InnChanged z = Due.told("host;guest;dull 0 0;true 0 1 0;night 2");
+        Due.due("19 place 0 alone", z.plan(0), 1);
+        Due.due("20 place 0 alone", z.planned(0, 0), 0);
+        InnChanged w = Due.told("host;guest;dull 0 0;dull 0 1;night 2");
+        Due.due("19 no charm", w.plan(0), 0);
     }
 }

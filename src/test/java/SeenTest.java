@@ -17,6 +17,7 @@ public final class SeenTest {
         apartTakesTheLeast();
         came();
         cameBack();
+        sixThingsAndNights();
         count();
         Due.end();
     }
@@ -279,6 +280,43 @@ public final class SeenTest {
         Due.due("29 another text", x.came(1), 1);
         x.pass(NONE, NONE);
         Due.due("29 another text", x.came(1), 11);
+    }
+
+    /** As many of all as there can be, and every row to its end. */
+    private static void sixThingsAndNights() {
+        InnChanged x = Due.told("host;guest;dull 0 0;dull 0 0;dull 0 0;true 0 1 0;true 0 1 1;true 0 1 2");
+        Due.tell(x, "night 2;night 2;night 2;night 2;night 2;night 2");
+        Due.due("19 charms", x.plan(0), 3);
+        Due.due("19 changes", x.plan(1), 3);
+        Due.due("20 none as long as can be", x.planned(2, 0), NONE);
+        Due.due("20 the first", x.planned(3, 1), 3);
+        Due.due("20 the last", x.planned(5, 0), 2);
+        Due.due("20 the last", x.planned(5, 1), 5);
+        Due.due("23 fit", x.fit(), 720);
+        Due.due("24 lies", x.lies(5), 63);
+        Due.due("26 odds", x.odds(5, 1), 2);
+        Due.due("27 next", x.next(2), 600);
+        Due.due("28 apart", x.apart(NONE), NONE);
+        Due.due("29 came", x.came(1), 1);
+        int[][] changes = {{0, 1}, {1, 2}, {2, 3}, {3, 4}, {4, 5}};
+        int[] reached = {16, 101, 326, 600, 720};
+        for (int i = 0; i < 5; i++) {
+            Due.due("12 pass", x.pass(changes[i][0], changes[i][1]), i + 1);
+            Due.due("29 came", x.came(1), reached[i]);
+        }
+        Due.due("16 one ring", x.rings(), 1);
+        Due.due("17 mend", x.mend(NONE, 0), 5);
+        Due.due("17 the last step", x.mend(4, 0), 4);
+        Due.due("17 the last step", x.mend(4, 1), 5);
+        // true ones of words 0, 1, 2 lie in places 2, 3, 4
+        x.seen(2, 0, 1);
+        x.seen(3, 1, 1);
+        x.seen(4, 2, 1);
+        Due.due("23 fit", x.fit(), 6);
+        Due.due("29 three true ones went on by one", x.came(0), 3);
+        Due.due("29 came", x.came(1), 6);
+        Due.due("12 pass", x.pass(NONE, NONE), 6);
+        Due.due("29 came", x.came(1), 6);
     }
 
     private static void count() {

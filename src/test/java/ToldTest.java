@@ -63,6 +63,9 @@ public final class ToldTest {
         Due.write(x, "host" + " ".repeat(151) + "host1");
         Due.due("4 full text", x.fault(), 155);
         x.erase();
+        Due.write(x, "night" + " ".repeat(153) + "00");
+        Due.due("4 full text to its last digit", x.fault(), NONE);
+        x.erase();
         Due.write(x, " ".repeat(156) + "host");
         Due.due("4 full text without a fault", x.fault(), NONE);
     }
@@ -106,6 +109,9 @@ public final class ToldTest {
         fault("hosthost", 0);
         fault("host;gue", 5);
         fault("  gest", 2);
+        fault("gost", 0);
+        fault("hostz", 0);
+        fault("hosta", 0);
         fault("7", 0);
         fault("\t", 0);
         fault("host\n", 4);
@@ -171,6 +177,8 @@ public final class ToldTest {
         faultBehind("night 0;night 0;night 0;night 0;night 0;night 0", "night", 0);
         fault("guest;guest;guest;guest;guest;night 31", NONE);
         fault("guest;guest;guest;guest;guest;night 32", 36);
+        fault("night 0;night 0;night 0;night 0;night 0;night 0;inn;night 0;night 0", NONE);
+        fault("inn;night 0;night 0;night 0;night 0;night 0;night 0", NONE);
         // the fifteenth line: the sign ahead of it cannot stand there
         String lines = "inn;inn;inn;inn;inn;inn;inn;inn;inn;inn;inn;inn;inn;inn";
         fault(lines, NONE);

@@ -1,0 +1,149 @@
+import java.io.IOException;
+import java.lang.reflect.Constructor;
+import java.lang.reflect.Field;
+import java.lang.reflect.Method;
+import java.lang.reflect.Modifier;
+import java.nio.file.Files;
+import java.nio.file.Path;
+import java.util.Arrays;
+import java.util.Random;
+import java.util.Set;
+import java.util.TreeSet;
+import java.util.regex.Pattern;
+
+/** The public face as the document has it, the rules of the language that a search can see, and no call that throws. */
+public final class FaceTest {
+    private static final String[] FACE = {
+        "write 1", "erase 0", "fault 0", "inn 0", "one 2", "as 2", "thing 2", "thingAs 2", "place 2",
+        "may 3", "pass 2", "say 2", "keep 1", "back 1", "rings 0", "mend 2", "show 1", "plan 1", "planned 2",
+        "seen 3", "forget 0", "fit 0", "lies 1", "sure 0", "odds 2", "next 1", "apart 1", "came 1", "count 1",
+    };
+    private static final String[] FORBIDDEN = {
+        "throw", "throws", "try", "catch", "synchronized", "assert", "protected", "Object", "hashCode",
+        "values", "Exact", "lambda", "->", "::", "Random", "Thread", "record", "volatile", "transient", "native",
+    };
+
+    public static void main(String[] args) throws Exception {
+        constants();
+        members();
+        nestedClasses();
+        source();
+        anyCalls();
+        Due.end();
+    }
+
+    private static void constants() {
+        Due.due("NONE", InnChanged.NONE, -1);
+        Due.due("UNKNOWN", InnChanged.UNKNOWN, -2);
+        Due.due("OUTSIDE", InnChanged.OUTSIDE, -3);
+        Due.due("NOT", InnChanged.NOT, -4);
+        Due.due("FULL", InnChanged.FULL, -5);
+    }
+
+    private static void members() {
+        Class<?> c = InnChanged.class;
+        Due.due("public and final", c.getModifiers(), Modifier.PUBLIC | Modifier.FINAL);
+        Set<String> want = new TreeSet<>(Arrays.asList(FACE));
+        Set<String> got = new TreeSet<>();
+        Set<String> names = new TreeSet<>();
+        for (Method m : c.getDeclaredMethods()) {
+            if (Modifier.isPublic(m.getModifiers())) {
+                got.add(m.getName() + " " + m.getParameterCount());
+                names.add(m.getName());
+                Due.due(m + " is not static", m.getModifiers(), Modifier.PUBLIC);
+            } else {
+                Due.due(m + " is private", Modifier.isPrivate(m.getModifiers()) ? 1 : 0, 1);
+            }
+        }
+        Due.due("the face is " + got, got.equals(want) ? 1 : 0, 1);
+        for (Class<?> inside : c.getDeclaredClasses()) {
+            for (Method m : inside.getDeclaredMethods()) {
+                Due.due(m + " bears a name of the face", names.contains(m.getName()) ? 1 : 0, 0);
+            }
+        }
+        for (Method m : c.getDeclaredMethods()) {
+            boolean clash = Modifier.isPrivate(m.getModifiers()) && names.contains(m.getName());
+            Due.due(m + " bears a name of the face", clash ? 1 : 0, 0);
+        }
+        Set<String> constants = new TreeSet<>(Arrays.asList("NONE", "UNKNOWN", "OUTSIDE", "NOT", "FULL"));
+        for (Field f : c.getDeclaredFields()) {
+            boolean shown = !Modifier.isPrivate(f.getModifiers());
+            Due.due(f + " is as the face has it", shown == constants.contains(f.getName()) ? 1 : 0, 1);
+        }
+        for (Constructor<?> k : c.getDeclaredConstructors()) {
+            Due.due(k + " is public", k.getModifiers(), Modifier.PUBLIC);
+            Due.due(k + " takes nothing", k.getParameterCount(), 0);
+        }
+    }
+
+    private static void nestedClasses() {
+        Class<?>[] inside = InnChanged.class.getDeclaredClasses();
+        Due.due("some twelve classes", inside.length <= 12 ? 1 : 0, 1);
+        for (Class<?> c : inside) {
+            Due.due(c + " is static", Modifier.isStatic(c.getModifiers()) ? 1 : 0, 1);
+            int fields = 0;
+            for (Field f : c.getDeclaredFields()) {
+                boolean fixed = Modifier.isStatic(f.getModifiers());
+                Due.due(f + ": static fields are final", fixed && !Modifier.isFinal(f.getModifiers()) ? 1 : 0, 0);
+                fields += fixed ? 0 : 1;
+            }
+            Due.due(c + ": some twenty fields", fields <= 20 ? 1 : 0, 1);
+        }
+    }
+
+    private static void source() throws IOException {
+        String text = Files.readString(Path.of("src/main/java/InnChanged.java"));
+        String code = text.replaceAll("(?s)/\\*.*?\\*/", "").replaceAll("//[^\n]*", "");
+        for (String word : FORBIDDEN) {
+            boolean named = Character.isLetter(word.charAt(0));
+            String pattern = named ? "\\b" + word + "\\b" : Pattern.quote(word);
+            Due.due("'" + word + "' stands in the source", Pattern.compile(pattern).matcher(code).find() ? 1 : 0, 0);
+        }
+        Due.due("one import, Arrays", code.split("\nimport |^import ", -1).length - 1, 1);
+        Due.due("Arrays is the import", code.trim().startsWith("import java.util.Arrays;") ? 1 : 0, 1);
+        Due.due("signs below 128 alone", text.chars().allMatch(c -> c < 128) ? 1 : 0, 1);
+        // objects are made in constructors and field initialisers alone, never by a call
+        for (String line : code.split("\n")) {
+            boolean makes = line.contains("new ");
+            boolean field = line.contains(" final ") || line.matches(" +(\\w+|kept\\[k\\]) = new \\w+[\\[(].*");
+            Due.due("a call makes an object: " + line, makes && !field ? 1 : 0, 0);
+        }
+    }
+
+    /** Any numbers in any state: it answers, and nothing is thrown (a thrown one ends this test with 1). */
+    private static void anyCalls() throws Exception {
+        Random random = new Random(7);
+        Method[] calls = InnChanged.class.getMethods();
+        Arrays.sort(calls, (a, b) -> a.toString().compareTo(b.toString()));
+        String[] texts = {
+            "inn", "host;guest;watcher;lender;host", "inn;guest", "true 0 0 0", "fading 0 0 1 1", "moody 0 0 0",
+            "inn;host;guest;dull 0 0;true 0 1 0;true 0 1 1;fading 0 1 1 2;moody 0 1 3;dull 0 0;night 2;night 3",
+            "night 0;night 0;night 0", "inn;night 0", "power 0 9", "x", "host;;",
+        };
+        for (int run = 0; run < 300; run++) {
+            InnChanged x = new InnChanged();
+            for (int i = 0; i < 400; i++) {
+                if (random.nextInt(40) == 0) {
+                    x.erase();
+                    Due.write(x, texts[random.nextInt(texts.length)]);
+                    x.inn();
+                }
+                anyCall(x, calls[random.nextInt(calls.length)], random);
+            }
+            Due.due("passed at most all", x.count(3) <= x.count(2) ? 1 : 0, 1);
+        }
+    }
+
+    private static void anyCall(InnChanged x, Method call, Random random) throws Exception {
+        if (call.getDeclaringClass() != InnChanged.class) {
+            return;
+        }
+        int[] far = {Integer.MIN_VALUE, Integer.MAX_VALUE, -1, -2, 6, 7, 160, 1 << 30};
+        Object[] numbers = new Object[call.getParameterCount()];
+        for (int k = 0; k < numbers.length; k++) {
+            numbers[k] = random.nextInt(5) == 0 ? far[random.nextInt(far.length)] : random.nextInt(6);
+        }
+        Object answer = call.invoke(x, numbers);
+        Due.due(call + " answers a number", answer instanceof Integer ? 1 : 0, 1);
+    }
+}
