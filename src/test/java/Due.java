@@ -34,6 +34,11 @@ final class Due {
         due("inn() of '" + text + "'", x.inn(), text.split(";", -1).length);
     }
 
+    /** That many of a line, with ; between. */
+    static String lines(String line, int times) {
+        return (line + ";").repeat(times).substring(0, Math.max(0, (line.length() + 1) * times - 1));
+    }
+
     static void end() {
         System.out.println(asked + " answers, " + wrong + " not as due");
         if (wrong != 0 || asked == 0) {
