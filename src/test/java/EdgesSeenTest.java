@@ -28,6 +28,8 @@ public final class EdgesSeenTest {
         cameRefused();
         cameByNights();
         cameByNightsThatWere();
+        cameBySixChanges();
+        cameBehindAnotherText();
         countRefused();
         countFewAndMany();
         Due.end();
@@ -346,6 +348,12 @@ public final class EdgesSeenTest {
         see(x, new int[] {0, 1, 0}, new int[] {2, 3, 0});
         Due.due("23 sixteen fit", x.fit(), 16);
         apart("sixteen", x, 2, 7, 8, 13);
+        see(x, new int[] {5, 0, 0}, new int[] {5, 3, 1});
+        Due.due("23 eight fit", x.fit(), 8);
+        apart("eight", x, 2, 4, 13);
+        x.forget();
+        see(x, new int[] {3, 2, 1}, new int[] {4, 1, 1}, new int[] {1, 3, 1}, new int[] {2, 0, 1});
+        apart("one", x);
         InnChanged y = Due.told("guest;true 0 0 0;true 0 0 1;true 0 0 2;true 0 0 3");
         see(y, new int[] {0, 0, 0});
         Due.due("23 eighteen fit", y.fit(), 18);
@@ -412,6 +420,49 @@ public final class EdgesSeenTest {
         came("nothing goes from a watcher", z, 0, 1);
         see(z, new int[] {0, 0, 1});
         came("nothing goes from a watcher", z, NONE, NONE);
+    }
+
+    /** Each night only two neighbours sleep there, so that all turned round takes every night's change. */
+    private static void cameBySixChanges() {
+        InnChanged x = Due.told("guest;guest;guest;guest;true 0 0 0;true 0 1 1;true 0 2 2;true 0 3 3;"
+                + "night 3;night 6;night 12;night 3;night 6;night 3");
+        see(x, new int[] {0, 3, 1}, new int[] {1, 2, 1}, new int[] {2, 1, 1}, new int[] {3, 0, 1});
+        for (int passed = 0; passed < 6; passed++) {
+            came("not in " + passed + " nights", x, NONE, NONE);
+            Due.due("12 none", x.pass(NONE, NONE), passed + 1);
+        }
+        came("by six changes in six nights", x, 6, 1);
+        x.forget();
+        came("all could have come", x, 0, 24);
+        Due.due("17 two would do, by any nights", turnedRound().mend(NONE, 0), 2);
+    }
+
+    private static InnChanged turnedRound() {
+        InnChanged x = Due.told("guest;guest;guest;guest;true 0 0 0;true 0 1 1;true 0 2 2;true 0 3 3;"
+                + "night 3;night 6;night 12;night 3;night 6;night 3");
+        int[] lesser = {0, 1, 2, 0, 1, 0};
+        for (int n = 0; n < 6; n++) {
+            Due.due("12 the one change that may be", x.pass(lesser[n], lesser[n] + 1), n + 1);
+        }
+        for (int p = 0; p < 4; p++) {
+            Due.due("10 turned round", x.place(p, 1), 3 - p);
+        }
+        return x;
+    }
+
+    private static void cameBehindAnotherText() {
+        InnChanged x = Due.told("host;dull 0 0;dull 0 0;dull 0 0;night 0;night 0");
+        x.pass(NONE, NONE);
+        x.pass(NONE, NONE);
+        came("two nights", x, 0, 6);
+        Due.tell(x, "inn;guest;dull 0 0;dull 1 0;dull 0 0;dull 1 0;night 1;night 1");
+        came("another text", x, 0, 1);
+        x.pass(NONE, NONE);
+        came("of two looks", x, 0, 3);
+        x.pass(NONE, NONE);
+        came("of two looks", x, 0, 4);
+        Due.tell(x, "inn");
+        came("nothing is left", x, 0, 1);
     }
 
     // ---- 30

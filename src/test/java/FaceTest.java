@@ -120,13 +120,16 @@ public final class FaceTest {
             "inn;host;guest;dull 0 0;true 0 1 0;true 0 1 1;fading 0 1 1 2;moody 0 1 3;dull 0 0;night 2;night 3",
             "night 0;night 0;night 0", "inn;night 0", "power 0 9", "x", "host;;",
         };
-        for (int run = 0; run < 300; run++) {
+        for (int run = 0; run < 400; run++) {
             InnChanged x = new InnChanged();
-            for (int i = 0; i < 400; i++) {
+            // one more text and the last count stay below the 512 calls that are promised
+            for (int made = 0; made < 380; made++) {
                 if (random.nextInt(40) == 0) {
+                    String text = texts[random.nextInt(texts.length)];
                     x.erase();
-                    Due.write(x, texts[random.nextInt(texts.length)]);
+                    Due.write(x, text);
                     x.inn();
+                    made += text.length() + 2;
                 }
                 anyCall(x, calls[random.nextInt(calls.length)], random);
             }

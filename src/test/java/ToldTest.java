@@ -6,6 +6,7 @@ public final class ToldTest {
     public static void main(String[] args) {
         newObject();
         writeAndErase();
+        fullTexts();
         faultsOfWords();
         faultsOfNumbers();
         faultsOfLimits();
@@ -55,19 +56,14 @@ public final class ToldTest {
         Due.due("3 count(9)", x.count(9), 0);
         Due.due("3 erase again", x.erase(), 0);
         Due.due("3 write", x.write('x'), 1);
+    }
+
+    private static void fullTexts() {
         // a text of blanks alone ends too soon; a full one is read to its end
-        x.erase();
-        Due.write(x, " ".repeat(160));
-        Due.due("4 blanks alone", x.fault(), 160);
-        x.erase();
-        Due.write(x, "host" + " ".repeat(151) + "host1");
-        Due.due("4 full text", x.fault(), 155);
-        x.erase();
-        Due.write(x, "night" + " ".repeat(153) + "00");
-        Due.due("4 full text to its last digit", x.fault(), NONE);
-        x.erase();
-        Due.write(x, " ".repeat(156) + "host");
-        Due.due("4 full text without a fault", x.fault(), NONE);
+        fault(" ".repeat(160), 160);
+        fault("host" + " ".repeat(151) + "host1", 155);
+        fault("night" + " ".repeat(153) + "00", NONE);
+        fault(" ".repeat(156) + "host", NONE);
     }
 
     private static void fault(String text, int want) {
