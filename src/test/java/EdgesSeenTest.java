@@ -358,6 +358,11 @@ public final class EdgesSeenTest {
         see(y, new int[] {0, 0, 0});
         Due.due("23 eighteen fit", y.fit(), 18);
         apartNot("eighteen", y);
+        // as many as an int has bits
+        InnChanged z = Due.told("guest;true 0 0 3;dull 0 0;true 0 0 3;true 0 0 0;dull 0 0");
+        see(z, new int[] {3, 3, 0}, new int[] {1, 3, 0}, new int[] {2, 0, 0});
+        Due.due("23 thirty-two fit", z.fit(), 32);
+        apartNot("thirty-two", z);
         apartNot("all of six", Due.told("guest;" + Due.lines("dull 0 0", 6)));
     }
 
