@@ -9,25 +9,22 @@ import java.util.Arrays;
 import java.util.Random;
 import java.util.Set;
 import java.util.TreeSet;
+import java.util.regex.Matcher;
 import java.util.regex.Pattern;
+import java.util.stream.Collectors;
 
-/** The public face as the document has it, the rules of the language that a search can see, and no call that throws. */
+/** The public face as the document has it, and no call that throws. */
 public final class FaceTest {
     private static final String[] FACE = {
         "write 1", "erase 0", "fault 0", "inn 0", "one 2", "as 2", "thing 2", "thingAs 2", "place 2",
         "may 3", "pass 2", "say 2", "keep 1", "back 1", "rings 0", "mend 2", "show 1", "plan 1", "planned 2",
         "seen 3", "forget 0", "fit 0", "lies 1", "sure 0", "odds 2", "next 1", "apart 1", "came 1", "count 1",
     };
-    private static final String[] FORBIDDEN = {
-        "throw", "throws", "try", "catch", "synchronized", "assert", "protected", "Object", "hashCode",
-        "values", "Exact", "lambda", "->", "::", "Random", "Thread", "record", "volatile", "transient", "native",
-    };
 
     public static void main(String[] args) throws Exception {
         constants();
         members();
-        nestedClasses();
-        source();
+        documentsFace();
         anyCalls();
         Due.end();
     }
@@ -76,38 +73,24 @@ public final class FaceTest {
         }
     }
 
-    private static void nestedClasses() {
-        Class<?>[] inside = InnChanged.class.getDeclaredClasses();
-        Due.due("some twelve classes", inside.length <= 12 ? 1 : 0, 1);
-        for (Class<?> c : inside) {
-            Due.due(c + " is static", Modifier.isStatic(c.getModifiers()) ? 1 : 0, 1);
-            int fields = 0;
-            for (Field f : c.getDeclaredFields()) {
-                boolean fixed = Modifier.isStatic(f.getModifiers());
-                Due.due(f + ": static fields are final", fixed && !Modifier.isFinal(f.getModifiers()) ? 1 : 0, 0);
-                fields += fixed ? 0 : 1;
+    /** The document's own lines, so that a name, a number of numbers, a type that differs is found. */
+    private static void documentsFace() throws IOException {
+        String doc = Files.readString(Path.of("../shared/DOC.md"));
+        Set<String> told = new TreeSet<>();
+        Matcher m = Pattern.compile("(?m)^    public (int \\w+\\([^)]*\\));$").matcher(doc);
+        while (m.find()) {
+            told.add(m.group(1).replaceAll("(int) \\w+([,)])", "$1$2"));
+        }
+        Set<String> has = new TreeSet<>();
+        for (Method call : InnChanged.class.getDeclaredMethods()) {
+            if (Modifier.isPublic(call.getModifiers())) {
+                has.add(call.getReturnType() + " " + call.getName() + "("
+                        + Arrays.stream(call.getParameterTypes()).map(Class::getName).collect(Collectors.joining(", "))
+                        + ")");
             }
-            Due.due(c + ": some twenty fields", fields <= 20 ? 1 : 0, 1);
         }
-    }
-
-    private static void source() throws IOException {
-        String text = Files.readString(Path.of("src/main/java/InnChanged.java"));
-        String code = text.replaceAll("(?s)/\\*.*?\\*/", "").replaceAll("//[^\n]*", "");
-        for (String word : FORBIDDEN) {
-            boolean named = Character.isLetter(word.charAt(0));
-            String pattern = named ? "\\b" + word + "\\b" : Pattern.quote(word);
-            Due.due("'" + word + "' stands in the source", Pattern.compile(pattern).matcher(code).find() ? 1 : 0, 0);
-        }
-        Due.due("one import, Arrays", code.split("\nimport |^import ", -1).length - 1, 1);
-        Due.due("Arrays is the import", code.trim().startsWith("import java.util.Arrays;") ? 1 : 0, 1);
-        Due.due("signs below 128 alone", text.chars().allMatch(c -> c < 128) ? 1 : 0, 1);
-        // objects are made in constructors and field initialisers alone, never by a call
-        for (String line : code.split("\n")) {
-            boolean makes = line.contains("new ");
-            boolean field = line.contains(" final ") || line.matches(" +(\\w+|kept\\[k\\]) = new \\w+[\\[(].*");
-            Due.due("a call makes an object: " + line, makes && !field ? 1 : 0, 0);
-        }
+        Due.due("the document tells all calls", told.size(), FACE.length);
+        Due.due("the document has " + told + ", the class " + has, told.equals(has) ? 1 : 0, 1);
     }
 
     /** Any numbers in any state: it answers, and nothing is thrown (a thrown one ends this test with 1). */
